@@ -422,6 +422,15 @@ public final class PromisesTest {
         due("value(2)", y.value(2), 0);
         due("kept(0)", y.kept(0), 2);
         due("value(1)", y.value(1), LARGE);
+        // Three regions, the last one with both sides' pieces; then it is divided and the others are burned.
+        BurningFields fewer = board(5, 3, "130313333310002");
+        due("lead()", fewer.lead(), IMPOSSIBLE);
+        fewer.setField(0, 3);
+        fewer.setField(4, 3);
+        fewer.setField(2, 3);
+        fewer.setField(12, 3);
+        due("lead()", fewer.lead(), 1 - 1);
+        due("kept(0)", fewer.kept(0), 2);
         // A region of kind 3 counts more than one that is too large.
         due("errors", board(5, 3, "100031013200033").lead(), IMPOSSIBLE);
         due("errors", board(5, 3, "100031013300033").lead(), LARGE);
