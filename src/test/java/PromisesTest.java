@@ -423,11 +423,10 @@ public final class PromisesTest {
         due("kept(0)", y.kept(0), 2);
         due("value(1)", y.value(1), LARGE);
         // Three regions, the last one with both sides' pieces; then it is divided and the others are burned.
-        BurningFields fewer = board(5, 3, "130313333310002");
+        BurningFields fewer = board(5, 3, "133313333310002");
         due("lead()", fewer.lead(), IMPOSSIBLE);
         fewer.setField(0, 3);
         fewer.setField(4, 3);
-        fewer.setField(2, 3);
         fewer.setField(12, 3);
         due("lead()", fewer.lead(), 1 - 1);
         due("kept(0)", fewer.kept(0), 2);
