@@ -2,13 +2,20 @@
 final class Checks {
     private int wrong = 0;
     private int asked = 0;
+    private String sentence = "";
+
+    /** The sentence of the document that the next checks are about; it is printed with a wrong answer. */
+    void sentence(String words) {
+        sentence = words;
+    }
 
     void due(String call, long got, long want) {
         asked++;
         if (got != want) {
             wrong++;
             if (wrong <= 50) {
-                System.out.println(call + " answered " + got + ", due is " + want);
+                String about = sentence.isEmpty() ? "" : "[" + sentence + "] ";
+                System.out.println(about + call + " answered " + got + ", due is " + want);
             }
         }
     }

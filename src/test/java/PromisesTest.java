@@ -1,40 +1,6 @@
 /** A check or more for each promise of the document: ordinary inputs, edges and wrong inputs. */
-public final class PromisesTest {
-    private static final int INVALID = -1001, IMPOSSIBLE = -1002, LIMIT = -1003, LARGE = -1004, MISSING = -1005;
+public final class PromisesTest extends BoardChecks {
     private static final int[] WRONG_SIDES = {0, 3, -1, Integer.MIN_VALUE, Integer.MAX_VALUE};
-
-    private static final Checks checks = new Checks();
-
-    private static void due(String call, long got, long want) {
-        checks.due(call, got, want);
-    }
-
-    /** A board of this size; fields: a digit a field. */
-    private static BurningFields board(int width, int height, String fields) {
-        BurningFields x = new BurningFields();
-        x.reset(width, height);
-        for (int f = 0; f < fields.length(); f++) {
-            if (fields.charAt(f) != '0') {
-                x.setField(f, fields.charAt(f) - '0');
-            }
-        }
-        dueFields("board", x, fields);
-        return x;
-    }
-
-    private static void dueFields(String when, BurningFields x, String fields) {
-        for (int f = 0; f < fields.length(); f++) {
-            due(when + ": field(" + f + ")", x.field(f), fields.charAt(f) - '0');
-        }
-        due(when + ": field(" + fields.length() + ")", x.field(fields.length()), INVALID);
-    }
-
-    private static void write(BurningFields x, String text) {
-        x.clearText();
-        for (int i = 0; i < text.length(); i++) {
-            due("type in " + text, x.type(text.charAt(i)), i + 1);
-        }
-    }
 
     private static void dueFault(String text, int want) {
         BurningFields x = new BurningFields();
