@@ -238,6 +238,29 @@ public final class TextBoundariesTest extends BoardChecks {
         }
     }
 
+    private static void lastingText() {
+        sentence("The text stays: no other changes, and no undo, are changes of the text");
+        BurningFields x = board(3, 3, "100000000");
+        write(x, "burn 8;left 9");
+        due("reset(3, 3)", x.reset(3, 3), 33);
+        due("fault()", x.fault(), 7);
+        due("undo()", x.undo(), 2);
+        due("fault()", x.fault(), 7);
+        due("move(1, 0, 1, 0)", x.move(1, 0, 1, 0), 0);
+        due("setField(2, 2)", x.setField(2, 2), 0);
+        due("type(';')", x.type(';'), 14);
+        due("run()", x.run(), 1);
+        dueFields("after run()", x, "312000003");
+        due("undo()", x.undo(), 4);
+        dueFields("undone", x, "312000000");
+        due("run()", x.run(), 1);
+        due("reset(1, 1)", x.reset(1, 1), 33);
+        due("clearText()", x.clearText(), 14);
+        sentence("clearText is no change: undo brings no text back");
+        due("undo()", x.undo(), 5);
+        due("clearText()", x.clearText(), 0);
+    }
+
     public static void main(String[] args) {
         characters();
         sixtyCharacters();
@@ -248,6 +271,7 @@ public final class TextBoundariesTest extends BoardChecks {
         placeOfTheFault();
         running();
         runWithAFault();
+        lastingText();
         checks.end();
     }
 }
