@@ -126,6 +126,10 @@ public final class PlayBoundariesTest extends BoardChecks {
         due("positions(1) would be 1501", lost.positions(1), LARGE);
         due("positions(2)", lost.positions(2), 1337);
         due("bestMove(1)", lost.bestMove(1), LARGE);
+        // Left has 5, 2 and 3 moves there, and loses with each; 3168, 4408 and 5180 positions can be reached.
+        duePlays(5, 3, "003023320030130", LARGE, LARGE, LARGE, LARGE);
+        duePlays(5, 3, "313000230030000", LARGE, LARGE, LARGE, LARGE);
+        duePlays(3, 5, "002000003330031", LARGE, LARGE, LARGE, LARGE);
         sentence("too large though the first move wins at once");
         BurningFields won = board(5, 3, "201003300000000");
         duePlay(won, 1, LARGE, LARGE, LARGE, LARGE);
