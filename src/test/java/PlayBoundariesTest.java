@@ -210,6 +210,21 @@ public final class PlayBoundariesTest extends BoardChecks {
             }
         }
         checks.holds("all these were there", found[0] > 0 && found[1] > 0 && found[2] > 0);
+        // L . X
+        // . X X      The move from 0 to 3 that burns 7 leaves right none at once; an earlier one wins, too.
+        // X . R
+        sentence("bestMove: the first winning move, though a later one ends it sooner");
+        BurningFields x = board(3, 3, "103033302");
+        due("length(1)", x.length(1), 1);
+        due("bestMove(1)", x.bestMove(1), 1);
+        due("to", x.moveAt(1, 1, 1), 1);
+        due("burnt", x.moveAt(1, 1, 2), 3);
+        due("right has a move then", x.move(1, 0, 1, 3), 1);
+        due("but loses", x.wins(2), 0);
+        due("later", x.length(2), 2);
+        x.undo();
+        due("the later one", x.move(1, 0, 3, 7), 0);
+        due("length(2)", x.length(2), 0);
     }
 
     private static void lengths() {
